@@ -412,7 +412,7 @@ public final class PromiseTest {
         check.about("13: the work of next");
         RisingParts rows = rowsOf(of(5, 5, 9, 40, 60), of());
         rows.bound(0, 64);
-        // The width is 3, the upper row 0 11 ... : ones at 0, 1, 3, 8, 11 of 13 bits, zeros at 2, 4, 5, 6, 7, 9, 10, 12.
+        // The width is 3, the upper row 1101000010010: zeros at 2, 4, 5, 6, 7, 9, 10, 12, samples of them at 2 and 7.
         due("next(0, 0, 2)", rows.next(0, 0, 2), 1);
         due("next(0, 5, 2)", rows.next(0, 5, 2), 1);
         due("next(0, 6, 2)", rows.next(0, 6, 2), 4);
@@ -597,19 +597,23 @@ public final class PromiseTest {
 
     private static void promise20UndoOfEachChange() {
         check.about("20: undo of each change");
-        RisingParts rows = rowsOf(of(3, 8), of(8, 9, 10));
-        rows.bound(0, 11);
-        rows.bound(1, 22);
-        write(rows, "1,2");
         for (int change = 0; change < 9; change++) {
+            RisingParts rows = new RisingParts();
+            write(rows, "3,8");
+            rows.read(0);
+            write(rows, "8,9,10");
+            rows.read(1);
+            rows.bound(0, 11);
+            due("count(2)", rows.count(2), 3);
             makeChange(rows, change);
             due("count(2)", rows.count(2), 4);
+            write(rows, "5");
             due("undo()", rows.undo(), 3);
             rowIs(rows, 0, 3, 8);
             rowIs(rows, 1, 8, 9, 10);
             due("rowOf(0, 1)", rows.rowOf(0, 1), 11);
-            due("rowOf(1, 1)", rows.rowOf(1, 1), 22);
-            rows.bound(0, 11);
+            due("rowOf(1, 1)", rows.rowOf(1, 1), 1024);
+            due("count(3)", rows.count(3), 1);
         }
     }
 
@@ -617,13 +621,13 @@ public final class PromiseTest {
         switch (change) {
             case 0: due("add(0, 4)", rows.add(0, 4), 1); break;
             case 1: due("drop(1, 0)", rows.drop(1, 0), 8); break;
-            case 2: due("bound(1, 500)", rows.bound(1, 500), 22); break;
+            case 2: due("bound(1, 500)", rows.bound(1, 500), 1024); break;
             case 3: due("join(0)", rows.join(0), 5); break;
             case 4: due("join(1)", rows.join(1), 4); break;
             case 5: due("exchange()", rows.exchange(), 3); break;
             case 6: due("clear(0)", rows.clear(0), 2); break;
             case 7: due("clear(1)", rows.clear(1), 3); break;
-            default: due("read(1)", rows.read(1), 2); break;
+            default: due("read(0)", rows.read(0), 3); break;
         }
     }
 
