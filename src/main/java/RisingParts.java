@@ -707,7 +707,7 @@ public final class RisingParts {
         private int length = 0;
 
         void append(int character) {
-            if (length < characters.length) {
+            if (length >= 0 && length < characters.length) {
                 characters[length] = character;
                 length++;
             }

@@ -1,7 +1,8 @@
 /** Long runs of calls, each answered by the program and by the model; the calls come from a fixed row of numbers. */
 public final class ModelTest {
     private static final int RUNS = 1500;
-    private static final int CALLS = 512;
+    // What is answered behind 512 calls is free, and the last step may make up to 84.
+    private static final int CALLS = 512 - 84;
     private static final int KINDS = 26;
 
     private static final Check check = new Check();

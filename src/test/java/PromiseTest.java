@@ -1,13 +1,5 @@
 /** Each promise of the document: ordinary inputs, the edges that it names, and wrong inputs. */
-public final class PromiseTest {
-    private static final int INVALID = -1000001;
-    private static final int NOT_POSSIBLE = -1000002;
-    private static final int LIMIT = -1000003;
-    private static final int NOT_FOUND = -1000004;
-    private static final int[] NO_ROW = {-1, 2, Integer.MIN_VALUE, Integer.MAX_VALUE};
-
-    private static final Check check = new Check();
-
+public final class PromiseTest extends Cases {
     public static void main(String[] args) {
         constants();
         promise1NewObject();
@@ -40,50 +32,6 @@ public final class PromiseTest {
         promise23OrderOfFaults();
         promise24Read();
         check.end();
-    }
-
-    private static void due(String call, long got, long want) {
-        check.due(call, got, want);
-    }
-
-    private static RisingParts rowsOf(int[] zero, int[] one) {
-        RisingParts rows = new RisingParts();
-        fill(rows, 0, zero);
-        fill(rows, 1, one);
-        return rows;
-    }
-
-    private static void fill(RisingParts rows, int row, int[] numbers) {
-        rows.bound(row, 4096);
-        for (int number : numbers) {
-            rows.add(row, number);
-        }
-    }
-
-    private static int[] of(int... numbers) {
-        return numbers;
-    }
-
-    private static int[] upTo(int size) {
-        int[] numbers = new int[size];
-        for (int i = 0; i < size; i++) {
-            numbers[i] = i;
-        }
-        return numbers;
-    }
-
-    private static void rowIs(RisingParts rows, int row, int... numbers) {
-        due("rowOf(" + row + ", 0)", rows.rowOf(row, 0), numbers.length);
-        for (int i = 0; i < numbers.length; i++) {
-            due("partOf(" + row + ", " + i + ", 0)", rows.partOf(row, i, 0), numbers[i]);
-        }
-    }
-
-    private static void write(RisingParts rows, String text) {
-        rows.clearText();
-        for (int i = 0; i < text.length(); i++) {
-            rows.type(text.charAt(i));
-        }
     }
 
     private static void constants() {
