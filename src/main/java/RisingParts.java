@@ -581,7 +581,7 @@ public final class RisingParts {
             return false;
         }
 
-        /** The work of finding the next number: all bits from the zero on are looked at, as far as its one or the end. */
+        /** The work of finding the next number: behind the zero, bits are looked at as far as its one or the end. */
         int workToNext(int x) {
             int upper = upperPart(x);
             int from = 0;
